@@ -822,12 +822,14 @@ public final class BracketLetters {
 
         /**
          * stack[n] becomes what stands in a behind the word of length n and value w, with the letter replaced. Going
-         * by beginnings, all words that share one share its products. The depth is n, DEGREE at most.
+         * by beginnings, all words that share one share its products. The depth is n, DEGREE at most; what
+         * is longer than fits behind is never reckoned.
          */
         private void setBehind(int[] a, int n, int w, int letter, int[] by) {
             int[] so = stack[n];
             int limit = degree - n;
-            Arrays.fill(so, 0);
+            // the product that takes this row looks one length further than it is filled
+            Arrays.fill(so, 0, start[Math.min(limit + 2, degree + 1)], 0);
             so[0] = a[start[n] + w];
             if (n >= degree) {
                 return;

@@ -721,6 +721,11 @@ public final class PromiseTest {
         due("count(6)", x.count(6), 100);
         due("read", x.read(0), 0);
         dueSame(x, 0, "aaa");
+        String[] full = {"a", "1", "0", "r0", "a+", "(a)2"};
+        for (String one : full) {
+            String text = one.repeat(100 / one.length());
+            due("a full tape of " + one, told(x, 1, text), one.equals("a+") ? -110 : 0);
+        }
     }
 
     private static void readingValues() {
