@@ -505,23 +505,6 @@ public final class BracketLetters {
             }
             return so;
         }
-
-        /** The word whose letters come from u at the mask's bits, else from v, all taken from the last one on. */
-        int woven(int mask, int length, int u, int v) {
-            int so = 0;
-            int first = u;
-            int second = v;
-            for (int n = 0; n < length; n++) {
-                if (((mask >> n) & 1) == 1) {
-                    so += first % letters * power[n];
-                    first /= letters;
-                } else {
-                    so += second % letters * power[n];
-                    second /= letters;
-                }
-            }
-            return so;
-        }
     }
 
     /**
@@ -698,20 +681,27 @@ public final class BracketLetters {
                 for (int v = 0; v < power[m]; v++) {
                     int other = y[start[m] + v];
                     if (other != 0) {
-                        mingleWords(n, u, m, v, Numbers.product(number, other));
+                        interleave(n, u, m, v, 0, 0, Numbers.product(number, other));
                     }
                 }
             }
         }
 
-        private void mingleWords(int n, int u, int m, int v, int number) {
-            int length = n + m;
-            for (int mask = 0; mask < 1 << length; mask++) {
-                if (Integer.bitCount(mask) == n) {
-                    int place = start[length] + words.woven(mask, length, u, v);
-                    fresh[place] = Numbers.plus(fresh[place], number);
-                }
+        /**
+         * All ways of setting the words (n letters, u) and (m letters, v) into each other, from their last letters on;
+         * behind tells how many letters stand already, so their value. Each level sets one: DEGREE levels at most.
+         */
+        private void interleave(int n, int u, int m, int v, int behind, int so, int number) {
+            if (n <= 0 || m <= 0) {
+                int rest = n <= 0 ? v : u;
+                int place = start[n + m + behind] + rest * power[behind] + so;
+                fresh[place] = Numbers.plus(fresh[place], number);
+                return;
             }
+            int withU = so + u % letters * power[behind];
+            int withV = so + v % letters * power[behind];
+            interleave(n - 1, u / letters, m, v, behind + 1, withU, number);
+            interleave(n, u, m - 1, v / letters, behind + 1, withV, number);
         }
 
         void turnAbout(int[] to, int[] a) {
