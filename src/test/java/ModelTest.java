@@ -31,6 +31,7 @@ public final class ModelTest {
                 }
             }
         }
+        compareShortTexts("01ar[](),+-/E8c", 4);
         System.out.println(wrong == 0 ? "all answers are as the model's" : wrong + " answers are not as the model's");
         if (wrong != 0) {
             System.exit(1);
@@ -43,6 +44,27 @@ public final class ModelTest {
             if (wrong < 20) {
                 System.out.println(run + ": " + call + " answered " + got + ", due is " + want);
             }
+        }
+    }
+
+    /** Every text of these signs up to a length, so that no fault's place is left to chance. */
+    private static void compareShortTexts(String signs, int length) {
+        ModelTest test = new ModelTest(0, 0, 1);
+        int many = 1;
+        for (int n = 0; n <= length; n++) {
+            for (int i = 0; i < many; i++) {
+                // an object is used for 512 calls at most
+                test = i % 40 == 0 ? new ModelTest(0, 0, 1) : test;
+                StringBuilder text = new StringBuilder();
+                for (int k = 0, rest = i; k < n; k++, rest /= signs.length()) {
+                    text.append(signs.charAt(rest % signs.length()));
+                }
+                test.feed(text.toString());
+                test.due("read(0) of " + text, test.x.read(0), test.y.read(0));
+                test.due("at(0, 0) of " + text, test.x.at(0, 0), test.y.at(0, 0));
+                test.due("at(0, 1) of " + text, test.x.at(0, 1), test.y.at(0, 1));
+            }
+            many *= signs.length();
         }
     }
 

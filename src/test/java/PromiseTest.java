@@ -90,15 +90,12 @@ public final class PromiseTest {
     }
 
     private static boolean isNought(BracketLetters x, int r) {
-        int letters = x.count(0);
-        int degree = x.count(1);
-        for (int told = 0; told < 1 << 3 * degree; told++) {
-            int number = x.at(r, told);
-            if (number != NONE && number != 0) {
+        for (String word : Due.words(x.count(0), x.count(1))) {
+            if (x.at(r, Due.w(word)) != 0) {
                 return false;
             }
         }
-        return letters > 0;
+        return true;
     }
 
     private static void newObject() {
