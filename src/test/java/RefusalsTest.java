@@ -42,6 +42,7 @@ public final class RefusalsTest {
         feed();
         read();
         count();
+        firstAndLastSumAreTaken();
         nextCallsAreTaken();
         Due.end();
     }
@@ -371,6 +372,41 @@ public final class RefusalsTest {
         for (int what : new int[] {-1, 7, Due.MIN, Due.MAX}) {
             refused("count(" + what + ")", Due.NONE, x -> x.count(what));
         }
+    }
+
+    /** The other side of each bound: no call refuses the sums 0 and 7, wherever they are told. */
+    private static void firstAndLastSumAreTaken() {
+        Due.sentence("There are SUMS 0 .. 7: NONE there is no such SUM");
+        for (int r : new int[] {0, 7}) {
+            int s = 7 - r;
+            taken("clear", x -> x.clear(r));
+            taken("put", x -> x.put(r, 0, 1, 1));
+            taken("at", x -> x.at(r, 0));
+            taken("add", x -> x.add(r, s, 1, 1));
+            taken("times", x -> x.times(r, s, r) + x.times(r, r, s));
+            taken("bracket", x -> x.bracket(r, s, r) + x.bracket(r, r, s));
+            taken("shuffle", x -> x.shuffle(r, s, r) + x.shuffle(r, r, s));
+            taken("turn", x -> x.turn(r, s));
+            taken("exp", x -> x.clear(s) + x.exp(r, s));
+            taken("log", x -> x.put(s, 0, 1, 1) + x.log(r, s));
+            taken("inverse", x -> x.put(s, 0, 1, 1) + x.inverse(r, s));
+            taken("group", x -> x.clear(0) + x.clear(7) + x.group(r, s, r) + x.group(s, s, r));
+            taken("derive", x -> x.derive(r, s, 0, r) + x.derive(r, r, 1, s));
+            taken("replace", x -> x.clear(r) + x.replace(r, s, 0, r) + x.clear(s) + x.replace(r, r, 1, s));
+            taken("part", x -> x.part(r, s, 0) + x.part(r, r, 3));
+            taken("pair", x -> x.pair(r, s));
+            taken("basis", x -> x.basis(r, 0) + x.basis(r, 4));
+            taken("share", x -> x.share(r, 0));
+            taken("lie", x -> x.lie(r));
+            taken("scheme", x -> x.scheme(r));
+            taken("relate", x -> x.basis(r, 4) + x.relate(r));
+            taken("read", x -> x.read(r));
+        }
+    }
+
+    private static void taken(String name, Due.Call call) {
+        int got = call.on(used());
+        Due.holds(name + " answered " + got, got >= 0);
     }
 
     /** What was refused is taken when its cause has gone, as if it had never been asked. */
