@@ -1,8 +1,5 @@
-import java.io.ByteArrayOutputStream;
+import java.io.File;
 import java.io.IOException;
-import java.io.PrintStream;
-import java.net.URL;
-import java.net.URLClassLoader;
 import java.nio.charset.StandardCharsets;
 import java.nio.file.DirectoryStream;
 import java.nio.file.Files;
@@ -11,8 +8,6 @@ import java.util.ArrayList;
 import java.util.List;
 import java.util.regex.Matcher;
 import java.util.regex.Pattern;
-import javax.tools.JavaCompiler;
-import javax.tools.ToolProvider;
 
 /** README.md tells the class as it is: its program, its table of calls against the document's promises, its refusals. */
 public final class ReadmeTest {
@@ -21,7 +16,7 @@ public final class ReadmeTest {
     private static final int CALLS = 34;
     private static int wrong = 0;
 
-    public static void main(String[] args) throws IOException, ReflectiveOperationException {
+    public static void main(String[] args) throws IOException, InterruptedException, ReflectiveOperationException {
         Path root = args.length > 0 ? Path.of(args[0]).resolve("../../../..").normalize() : Path.of("");
         String readme = Files.readString(root.resolve("README.md"));
         String document = Files.readString(root.resolve("../shared/DOC.md"));
@@ -51,18 +46,15 @@ public final class ReadmeTest {
         return there ? found.group(1) : "";
     }
 
-    private static void checkProgram(String program, String due) throws IOException, ReflectiveOperationException {
+    /** By the commands that the page tells, which .ci/run needs, too. */
+    private static void checkProgram(String program, String due) throws IOException, InterruptedException {
         Path room = Files.createTempDirectory("readme");
         Path source = room.resolve("Example.java");
         Files.writeString(source, program);
-        JavaCompiler compiler = ToolProvider.getSystemJavaCompiler();
         String path = System.getProperty("java.class.path");
-        int failed = compiler.run(null, null, null, "-cp", path, "-d", room.toString(), source.toString());
-        check(failed == 0, "the page's program does not compile");
-        if (failed == 0) {
-            String printed = printedBy(room);
-            check(printed.equals(due), "the page's program prints\n" + printed);
-        }
+        printedBy("javac", "-cp", path, "-d", room.toString(), source.toString());
+        String printed = printedBy("java", "-cp", path + File.pathSeparator + room, "Example");
+        check(printed.equals(due), "the page's program prints\n" + printed);
         try (DirectoryStream<Path> made = Files.newDirectoryStream(room)) {
             for (Path one : made) {
                 Files.delete(one);
@@ -71,16 +63,11 @@ public final class ReadmeTest {
         Files.delete(room);
     }
 
-    private static String printedBy(Path room) throws IOException, ReflectiveOperationException {
-        ByteArrayOutputStream bytes = new ByteArrayOutputStream();
-        PrintStream before = System.out;
-        try (URLClassLoader loader = new URLClassLoader(new URL[] {room.toUri().toURL()})) {
-            System.setOut(new PrintStream(bytes, true, StandardCharsets.UTF_8));
-            loader.loadClass("Example").getMethod("main", String[].class).invoke(null, (Object) new String[0]);
-        } finally {
-            System.setOut(before);
-        }
-        return bytes.toString(StandardCharsets.UTF_8).replace(System.lineSeparator(), "\n");
+    private static String printedBy(String... command) throws IOException, InterruptedException {
+        Process process = new ProcessBuilder(command).redirectError(ProcessBuilder.Redirect.INHERIT).start();
+        String printed = new String(process.getInputStream().readAllBytes(), StandardCharsets.UTF_8);
+        check(process.waitFor() == 0, command[0] + " of the page's program failed");
+        return printed.replace(System.lineSeparator(), "\n");
     }
 
     /** Each promise has its row, with the parameters and, in their order, the refusals that the document names. */
